@@ -62,6 +62,9 @@ public final class NewsreelHouse {
         if (from == to) {
             return STATE;
         }
+        if (timetable.isFull()) {
+            return FULL;
+        }
         return timetable.add(new Way(from, to, first, every, takes, late));
     }
 
@@ -743,8 +746,12 @@ public final class NewsreelHouse {
         private int wayCount;
         private final int[] there = new int[PLACES];
 
+        boolean isFull() {
+            return wayCount >= WAYS;
+        }
+
         int add(Way way) {
-            if (wayCount >= WAYS) {
+            if (isFull()) {
                 return FULL;
             }
             ways[wayCount] = way;

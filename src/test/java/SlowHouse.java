@@ -71,7 +71,7 @@ final class SlowHouse {
     }
 
     /** Goes through the hours one by one and lets every way leave that does. */
-    private int walk(int from, int hour, int to, boolean worst) {
+    private int[] walkAll(int from, int hour, boolean worst) {
         int[] there = new int[8];
         java.util.Arrays.fill(there, Integer.MAX_VALUE);
         there[from] = hour;
@@ -83,7 +83,12 @@ final class SlowHouse {
                 }
             }
         }
-        return there[to] == Integer.MAX_VALUE ? NONE : there[to];
+        return there;
+    }
+
+    private int walk(int from, int hour, int to, boolean worst) {
+        int there = walkAll(from, hour, worst)[to];
+        return there == Integer.MAX_VALUE ? NONE : there;
     }
 
     int arrival(int from, int hour, int to, boolean worst) {
@@ -626,9 +631,9 @@ final class SlowHouse {
     private boolean[][] reach;
     private boolean[] coverable;
 
-    private boolean inTime(int[] from, int[] event) {
-        int there = walk(from[0], from[1], event[0], true);
-        return there != NONE && there <= event[1];
+    private void reachFrom(int spot, int[] from) {
+        int[] there = walkAll(from[0], from[1], true);
+        for (int e = 0; e < events.size(); e++) reach[spot][e] = there[events.get(e)[0]] <= events.get(e)[1];
     }
 
     /** Every man takes any event that he can go to next, one behind the other, then the next man. */
@@ -654,10 +659,8 @@ final class SlowHouse {
     private int[] covers() {
         int n = events.size();
         reach = new boolean[4 + n][n];
-        for (int e = 0; e < n; e++) {
-            for (int m = 0; m < 4; m++) reach[m][e] = men[m] != null && inTime(men[m], events.get(e));
-            for (int f = 0; f < n; f++) reach[4 + f][e] = inTime(events.get(f), events.get(e));
-        }
+        for (int m = 0; m < 4; m++) if (men[m] != null) reachFrom(m, men[m]);
+        for (int e = 0; e < n; e++) reachFrom(4 + e, events.get(e));
         coverable = new boolean[1 << n];
         seen = new boolean[4][1 << n];
         tryMan(0, 0);
