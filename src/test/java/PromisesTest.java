@@ -120,6 +120,7 @@ public final class PromisesTest {
             due("3 number", x.way(1, 2, 0, 1, 1, 0), i);
         }
         due("3 full", x.way(1, 2, 0, 1, 1, 0), FULL);
+        due("3 no way 24", x.shut(24), UNKNOWN);
         due("3 state ahead of full", x.way(1, 1, 0, 1, 1, 0), STATE);
     }
 
@@ -162,6 +163,9 @@ public final class PromisesTest {
         x.way(2, 3, 8, 20, 1, 0);
         due("5 two ways, no wait", x.arrival(1, 0, 3, false), 9);
         due("5 two ways, worst waits", x.arrival(1, 0, 3, true), 29);
+        x.way(6, 5, 9999, 500, 500, 200);
+        due("5 a way that leaves at 9999", x.arrival(6, 9999, 5, true), 10699);
+        due("5 and is waited for", x.arrival(6, 0, 5, false), 10499);
         x.way(2, 4, 0, 1, 1, 0);
         due("5 no way leaves behind 9999", x.arrival(1, 9995, 4, false), 9999);
         due("5 no way at worst", x.arrival(1, 9995, 4, true), NONE);
@@ -203,6 +207,7 @@ public final class PromisesTest {
             due("6 number", x.shot(0, 0, 1, 0, 0, 1), i);
         }
         due("6 full", x.shot(0, 0, 1, 0, 0, 1), FULL);
+        due("6 no shot 40", x.about(40, 0), UNKNOWN);
         due("6 outside ahead of full", x.shot(0, 0, 0, 0, 0, 1), OUTSIDE);
     }
 
@@ -384,6 +389,11 @@ public final class PromisesTest {
         x.shot(0, 0, 9, 0, 0b10101000, 1);
         x.shot(0, 0, 9, 0, 0, 1);
         due("15 no facts", x.lie(0, 7, 9999), NONE);
+        x.shot(0, 0, 9, 0, 255, 1);
+        for (int place = 0; place < 8; place++) {
+            due("15 no facts, first day", x.lie(2, place, 0), NONE);
+            due("15 no facts, last day", x.lie(2, place, 364 * 24 + 23), NONE);
+        }
         x.fact(0, 0, 0, 0);
         due("15 not its mark", x.lie(0, 0, 0), NONE);
         x.fact(5, 0b1001, 10, 20);
@@ -402,7 +412,7 @@ public final class PromisesTest {
         due("15 one day", x.lie(0, 3, 12 * 24), 7);
         due("15 not that day", x.lie(0, 3, 13 * 24), 3);
         due("15 no marks", x.lie(1, 5, 0), NONE);
-        due("15 shot", x.lie(2, 0, 0), UNKNOWN);
+        due("15 shot", x.lie(3, 0, 0), UNKNOWN);
         due("15 place 8", x.lie(0, 8, -1), UNKNOWN);
         due("15 place -1", x.lie(0, -1, 0), UNKNOWN);
         due("15 hour above", x.lie(0, 0, 10000), OUTSIDE);
@@ -453,6 +463,7 @@ public final class PromisesTest {
             due("17 number", x.story(0, 0, 0, 0), i);
         }
         due("17 full", x.story(0, 0, 0, 0), FULL);
+        due("17 no story 8", x.of(8, 0), UNKNOWN);
         due("17 outside ahead of full", x.story(0, 0, 0, -1), OUTSIDE);
     }
 
@@ -472,6 +483,7 @@ public final class PromisesTest {
             due("18 how many", x.put(0, i), i + 1);
         }
         due("18 in it, ahead of full", x.put(0, 5), STATE);
+        due("18 in it as the first", x.put(0, 0), STATE);
         due("18 away, ahead of full", x.put(0, 7), STATE);
         due("18 full", x.put(0, 6), FULL);
         due("18 in another one too", x.put(1, 0), 1);
@@ -555,7 +567,13 @@ public final class PromisesTest {
         x.lose(2);
         due("22 not ready", x.of(0, 6), 0);
         due("22 feet of lost ones too", x.of(0, 1), 134);
-        due("22 story", x.of(1, 9), UNKNOWN);
+        x.story(0, 2, 2400, 0);
+        x.put(1, 0);
+        due("22 a false one at the head", x.of(1, 4), 1);
+        due("22 a lent one at the head", x.of(1, 5), 1);
+        x.put(1, 1);
+        due("22 disorder at once", x.of(1, 2), 1);
+        due("22 story", x.of(2, 9), UNKNOWN);
         due("22 below", x.of(-1, 0), UNKNOWN);
         due("22 what 7", x.of(0, 7), OUTSIDE);
         due("22 what -1", x.of(0, -1), OUTSIDE);
@@ -632,6 +650,7 @@ public final class PromisesTest {
             due("26 number", x.rule(5), i);
         }
         due("26 full", x.rule(5), FULL);
+        due("26 no rule 6", x.fault(6), UNKNOWN);
         due("26 outside ahead of full", x.rule(417), OUTSIDE);
         x.story(3, 0, 0, 0);
         feedText(x, 2, "s=3");
@@ -696,6 +715,17 @@ public final class PromisesTest {
         due("28 is not in force", x.bars(0, 0, 0), NONE);
         feedText(x, 0, "p=0");
         due("28 is mended", x.bars(0, 0, 0), 0);
+        for (String begun : new String[] {"!", "(((", "((!", "s=1|", "(s=1|p=9)&(!"}) {
+            x = new NewsreelHouse();
+            x.story(1, 0, 0, 0);
+            x.rule(0);
+            x.rule(0);
+            feedText(x, 0, begun);
+            feedText(x, 1, "s=1&(p=0)");
+            due("28 the next rule holds behind " + begun, x.bars(0, 0, 0), 1);
+            feedText(x, 1, "&s=2");
+            due("28 the next rule does not behind " + begun, x.bars(0, 0, 0), NONE);
+        }
     }
 
     private static void p29() {
@@ -728,26 +758,27 @@ public final class PromisesTest {
         return x.bars(0, 1, 0) == rule;
     }
 
-    /** A story of subject 5 at place 2, 2 of its 3 shots old, 1 false, 1 lent, 60 feet, in land 1. */
+    /** A story of subject 5 at place 2, 2 of its 4 shots old, 1 false, 3 lent, 60 feet, in land 1. */
     private static NewsreelHouse barred() {
         NewsreelHouse x = at(1000);
         x.story(5, 2, 960, 0);
         x.shot(2, 0, 10, 0, 0, 1);
         x.shot(2, 1, 20, 0, 1, 2);
-        x.shot(2, 950, 30, 0, 0, 1);
+        x.shot(2, 950, 25, 0, 0, 2);
+        x.shot(2, 951, 5, 0, 0, 2);
         x.fact(0, 1, 0, 364);
-        for (int i = 0; i < 3; i++) {
+        for (int i = 0; i < 4; i++) {
             x.put(0, i);
         }
         return x;
     }
 
     private static void p30() {
-        String[] yes = {"s=5", "p=2", "l=1", "f=60", "o=2", "u=2", "x=1", "k=1", "s<6", "s>4", "f=0060", "!s=4", "!!s=5", "s=1|s=5", "s=5&p=2",
+        String[] yes = {"s=5", "p=2", "l=1", "f=60", "o=2", "u=2", "x=1", "k=3", "s<6", "s>4", "f=0060", "!s=4", "!!s=5", "s=1|s=5", "s=5&p=2",
             "s=5|s=1&p=9", "!s=1&p=2", "!(s=5&p=9)", "(s=1|s=5)&p=2", "!(s=1)&!(p=1)", "s=1&p=1|l=1", " s = 5 ", "!!(!s=5|f>59)",
-            "s=1|s=2|s=5", "s=5&p=2&l=1", "((s=5))"};
+            "s=1|s=2|s=5", "s=5&p=2&l=1", "((s=5))", "(s=1|s=2)|(s=5)", "!(s=1)&(s=5)"};
         String[] no = {"s=4", "s<5", "s>5", "p=1", "l=0", "f<60", "o>2", "u<2", "x=0", "k=2", "!s=5", "s=5&p=1", "(s=5|s=1)&p=9",
-            "!(s=5|p=9)", "s=1|s=2", "!s=5|p=9", "!(!(s=1))", "s=5&!p=2", "s=5&(p=1|l=2)", "s=1&s=1|s=5&p=1"};
+            "!(s=5|p=9)", "s=1|s=2", "!s=5|p=9", "!(!(s=1))", "s=5&!p=2", "s=5&(p=1|l=2)", "s=1&s=1|s=5&p=1", "(s=5|p=9)&(s=1)", "(!s=1)&(s=1)", "(s=1|s=5)&(s=1|s=2)"};
         NewsreelHouse x = barred();
         int rule = 0;
         for (String[] texts : new String[][] {yes, no}) {
@@ -771,7 +802,9 @@ public final class PromisesTest {
         due("30 in another land", x.bars(0, 2, 416), 2);
         x.say(0, true);
         due("30 said: o is as it was", x.bars(0, 1, 0), 1);
-        due("30 said: u is 0", x.bars(0, 2, 0), NONE);
+        due("30 said: u is not 2", x.bars(0, 2, 0), NONE);
+        feedText(x, 0, "u=0");
+        due("30 said: u is 0", x.bars(0, 2, 0), 0);
         due("30 story", x.bars(1, 0, -1), UNKNOWN);
         due("30 land 5", x.bars(0, 5, 417), UNKNOWN);
         due("30 land -1", x.bars(0, -1, 0), UNKNOWN);
@@ -894,7 +927,10 @@ public final class PromisesTest {
     private static void p37() {
         NewsreelHouse x = withStories(new int[] {5, 9}, new int[] {500, 500});
         due("37 not at first", x.rival(1, true), 0);
-        reelIs("37 half, cut", x, 5, 0);
+        reelIs("37 less than the other", x, 5, 0);
+        x.must(1, true);
+        reelIs("37 half, cut", x, 4, 1);
+        x.must(1, false);
         due("37 had", x.rival(1, false), 1);
         due("37 had not", x.rival(1, false), 0);
         reelIs("37 whole", x, 9, 1);
@@ -956,6 +992,10 @@ public final class PromisesTest {
         reelIs("39 with 2", x, 7, 1, 2);
         x.apart(1, 2, true);
         reelIs("39 with 2 far off", x, 7, 1, 3, 2);
+        x.lose(2);
+        due("39 as it is now, with no other call ahead", x.reelAt(0, 0, 0), 0);
+        x.lose(0);
+        due("39 as it is now again", x.reelAt(0, 0, 0), 1);
         due("39 below", x.reelAt(0, 0, -1), NONE);
         due("39 min", x.reelAt(0, 0, MIN), NONE);
         due("39 max", x.reelAt(0, 0, MAX), NONE);
@@ -986,6 +1026,11 @@ public final class PromisesTest {
         due("40 apart", x.judge(0, 0, 0x32L), 4);
         due("40 apart the other way", x.judge(0, 0, 0x423L), 4);
         due("40 not side by side", x.judge(0, 0, 0x342L), 0);
+        x.apart(0, 3, true);
+        x.reserve(0, false);
+        due("40 apart from story 0", x.judge(0, 0, 0x41L), 4);
+        due("40 story 0 behind", x.judge(0, 0, 0x14L), 4);
+        x.reserve(0, true);
         due("40 not allowed ahead of apart", x.judge(0, 0, 0x321L), 3);
         x.length(true, 400);
         due("40 apart ahead of feet", x.judge(0, 0, 0x32L), 4);
@@ -1132,6 +1177,11 @@ public final class PromisesTest {
         x.man(1, 0, 0);
         due("45 two men, ten of fifteen", x.cover(), 11);
         due("45 still in some", x.covered(4), 1);
+        x.man(0, 7, 0);
+        x.man(1, 7, 0);
+        for (int event = 0; event < 5; event++) {
+            due("45 nobody can any more", x.covered(event), 0);
+        }
         due("45 above", x.covered(5), UNKNOWN);
         due("45 below", x.covered(-1), UNKNOWN);
     }
@@ -1233,6 +1283,25 @@ public final class PromisesTest {
         x.hall(0, 0, 8, 5);
         x.hall(0, 0, 0, 6);
         weeksAre("50 earning most is ahead of early weeks", x, new int[] {1, 0});
+        eightHalls();
+    }
+
+    private static void eightHalls() {
+        NewsreelHouse x = new NewsreelHouse();
+        for (int i = 0; i < 8; i++) {
+            x.hall(0, 0, 8, 1);
+        }
+        weeksAre("50 eight halls, one print", x, new int[] {0, 1, 2, 3, 4, 5, 6, 7});
+        x.prints(3);
+        weeksAre("50 eight halls, three prints", x, new int[] {0, 0, 0, 1, 1, 1, 2, 2});
+        x.prints(8);
+        weeksAre("50 eight halls, eight prints", x, new int[] {0, 0, 0, 0, 0, 0, 0, 0});
+        for (int week = 0; week < 8; week++) {
+            x.part(week, 99);
+        }
+        weeksAre("50 all in the last week", x, new int[] {8, 8, 8, 8, 8, 8, 8, 8});
+        x.prints(7);
+        weeksAre("50 the first hall need not earn", x, new int[] {0, 8, 8, 8, 8, 8, 8, 8});
     }
 
     private static void weeksAre(String what, NewsreelHouse x, int[] weeks) {
@@ -1261,6 +1330,9 @@ public final class PromisesTest {
         for (int what = 0; what < 8; what++) {
             due("51 " + what, x.count(what), want[what]);
         }
+        NewsreelHouse y = new NewsreelHouse();
+        y.shot(0, 0, 1, 0, 0, 1);
+        due("51 the first shot is in", y.count(1), 1);
         x.lose(1);
         due("51 lost: still a shot", x.count(0), 3);
         due("51 lost: not in", x.count(1), 1);
