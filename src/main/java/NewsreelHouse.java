@@ -628,11 +628,11 @@ public final class NewsreelHouse {
     }
 
     private static boolean hasMember(int set, int member) {
-        return (set >> member & 1) != 0;
+        return ((set >> member) & 1) != 0;
     }
 
     private static int withMember(int set, int member, boolean in) {
-        return in ? set | 1 << member : set & ~(1 << member);
+        return in ? set | (1 << member) : set & ~(1 << member);
     }
 
     // ---- what there is
@@ -997,7 +997,7 @@ public final class NewsreelHouse {
         }
 
         private static int byteAt(long bytes, int i) {
-            return (int) (bytes >>> 8 * i & 255);
+            return (int) ((bytes >>> (8 * i)) & 255);
         }
 
         boolean isInForce(int day) {
@@ -1121,7 +1121,7 @@ public final class NewsreelHouse {
                 return true;
             }
             if (b == '|') {
-                earlierHeld[depth] |= allHold[depth];
+                earlierHeld[depth] = earlierHeld[depth] || allHold[depth];
                 allHold[depth] = true;
             }
             state = WANTS_ONE;
@@ -1154,7 +1154,7 @@ public final class NewsreelHouse {
         }
 
         private void endOne(boolean held) {
-            allHold[depth] &= held != turned[depth];
+            allHold[depth] = allHold[depth] && held != turned[depth];
             turned[depth] = false;
             state = WANTS_JOINT;
         }
@@ -1252,14 +1252,14 @@ public final class NewsreelHouse {
             int last = -1;
             boolean clash = false;
             for (int i = 0; i < 16; i++) {
-                int story = (int) (row >>> 4 * i & 15) - 1;
+                int story = (int) ((row >>> (4 * i)) & 15) - 1;
                 if (story < 0) {
                     break;
                 }
                 if (story >= listed || hasMember(set, story)) {
                     return 1;
                 }
-                clash |= last >= 0 && hasMember(apartFrom[story], last);
+                clash = clash || last >= 0 && hasMember(apartFrom[story], last);
                 set = withMember(set, story, true);
                 last = story;
             }
@@ -1385,8 +1385,9 @@ public final class NewsreelHouse {
                 int event = byHour[rank];
                 nextOnes[rank] = reachable(timetable, places[event], hours[event]);
             }
-            Arrays.fill(menDo, false);
-            menDo[0] = true;
+            for (int set = 0; set < 1 << EVENTS; set++) {
+                menDo[set] = set == 0;
+            }
             for (int man = 0; man < MEN; man++) {
                 if (manPlaces[man] != NONE) {
                     addMan(reachable(timetable, manPlaces[man], manHours[man]));
@@ -1410,7 +1411,7 @@ public final class NewsreelHouse {
                 oneManDoes[set] = canDo(set, firstOnes);
             }
             for (int set = (1 << eventCount) - 1; set > 0; set--) {
-                for (int own = set; own > 0 && !menDo[set]; own = own - 1 & set) {
+                for (int own = set; own > 0 && !menDo[set]; own = (own - 1) & set) {
                     menDo[set] = oneManDoes[own] && menDo[set ^ own];
                 }
             }
@@ -1532,7 +1533,7 @@ public final class NewsreelHouse {
             for (int set = (1 << hallCount) - 1; set > 0; set--) {
                 for (int hall = 0; hall < hallCount; hall++) {
                     if (hasMember(set & open, hall)) {
-                        soFar[set] = Math.max(soFar[set], soFar[set ^ 1 << hall] + gains[hall]);
+                        soFar[set] = Math.max(soFar[set], soFar[set ^ (1 << hall)] + gains[hall]);
                     }
                 }
             }

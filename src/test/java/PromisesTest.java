@@ -487,6 +487,10 @@ public final class PromisesTest {
         due("18 away, ahead of full", x.put(0, 7), STATE);
         due("18 full", x.put(0, 6), FULL);
         due("18 in another one too", x.put(1, 0), 1);
+        due("18 the first of six is cut", x.cut(0, 0), 0);
+        due("18 and comes behind", x.put(0, 0), 6);
+        due("18 as the last", x.cut(0, 5), 0);
+        x.put(0, 6);
         x.lose(1);
         due("18 lost", x.put(1, 1), STATE);
         due("18 lost ones stay", x.of(0, 0), 6);
@@ -1152,6 +1156,11 @@ public final class PromisesTest {
         due("44 four of five", x.cover(), 50);
         due("44 the least is left", x.covered(0), 0);
         due("44 the others are in all", x.covered(1), 2);
+        x.event(7, 9, 1);
+        x.event(7, 1, 1);
+        x.event(7, 0, 1);
+        due("44 eight events", x.cover(), 52);
+        due("44 waiting for the late one costs more", x.covered(5), 0);
     }
 
     private static void p45() {
