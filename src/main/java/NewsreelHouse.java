@@ -540,12 +540,7 @@ public final class NewsreelHouse {
     }
 
     public int prints(int n) {
-        if (!within(n, 0, 8)) {
-            return OUTSIDE;
-        }
-        int before = halls.printCount;
-        halls.printCount = n;
-        return before;
+        return within(n, 0, 8) ? halls.changePrints(n) : OUTSIDE;
     }
 
     public int run() {
@@ -1475,6 +1470,7 @@ public final class NewsreelHouse {
 
         private final long[] gains = new long[HALLS];
         private final long[] soFar = new long[1 << HALLS];
+        private boolean searched;
 
         int add(int from, int to, int take) {
             if (hallCount >= HALLS) {
@@ -1484,12 +1480,21 @@ public final class NewsreelHouse {
             tos[hallCount] = to;
             takes[hallCount] = take;
             hallCount++;
+            searched = false;
             return hallCount - 1;
         }
 
         int changePart(int week, int value) {
             int before = parts[week];
             parts[week] = value;
+            searched = false;
+            return before;
+        }
+
+        int changePrints(int value) {
+            int before = printCount;
+            printCount = value;
+            searched = false;
             return before;
         }
 
@@ -1502,19 +1507,28 @@ public final class NewsreelHouse {
             return figure == 0 ? NONE : WEEKS - figure;
         }
 
+        /** Asked for hall by hall, so that what was found stays till something changes. */
+        private long bestRun() {
+            if (!searched) {
+                search();
+                searched = true;
+            }
+            return soFar[(1 << hallCount) - 1];
+        }
+
         /**
          * A run is a number: what it earns ahead of eight figures, one for each hall, the earlier its
          * week the greater, 0 for none: the greatest number is the best run.
          */
-        private long bestRun() {
+        private void search() {
             Arrays.fill(soFar, 0L);
             for (int week = 0; week < WEEKS; week++) {
                 int open = openIn(week);
-                for (int print = 0; print < printCount && print < hallCount; print++) {
+                int useful = Math.min(printCount, Integer.bitCount(open));
+                for (int print = 0; print < useful; print++) {
                     addPrint(open);
                 }
             }
-            return soFar[(1 << hallCount) - 1];
         }
 
         /** The halls that a week is one of, with what each gains by it. */
