@@ -1147,6 +1147,11 @@ final class CallEdges extends Edges {
         row("two men", (y, event) -> y.covered(event), x, 2, 2, 2, 2, 2);
         x.event(5, 20, 999);
         row("one that nobody can reach", (y, event) -> y.covered(event), x, 2, 2, 2, 2, 2, 0);
+        x.man(0, 7, 0);
+        x.man(3, 7, 0);
+        row("nobody can reach any of them any more", (y, event) -> y.covered(event), x, 0, 0, 0, 0, 0, 0);
+        x.man(0, 5, 0);
+        row("the last one alone", (y, event) -> y.covered(event), x, 0, 0, 0, 0, 0, 2);
         due("of a cover of 0", crowdedWithoutMen(), 0);
         onlyAsks("covered", y -> y.covered(0));
         says("UNKNOWN");

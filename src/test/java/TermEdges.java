@@ -339,6 +339,11 @@ final class TermEdges extends Edges {
         due("round: day 0", x.lie(0, 0, 0), NONE);
         due("round: day 1", x.lie(0, 0, 24), 7);
         due("round: day 363", x.lie(0, 0, 363 * 24), 7);
+        x.fact(7, 255, 360, 5);
+        due("round: within, ahead of the turn", x.lie(0, 0, 362 * 24), NONE);
+        due("round: within, behind the turn", x.lie(0, 0, 3 * 24), NONE);
+        due("round: the day ahead", x.lie(0, 0, 359 * 24), 7);
+        due("round: the day behind", x.lie(0, 0, 6 * 24), 7);
         x.fact(7, 255, 9, 9);
         due("one day: it", x.lie(0, 0, 9 * 24), NONE);
         due("one day: the next", x.lie(0, 0, 10 * 24), 7);
@@ -549,7 +554,7 @@ final class TermEdges extends Edges {
 
     private void grammar() {
         says("ANY: ALL, or ALL | ANY");
-        holds("s=1", "s=1|s=2", "s=2|s=1", "s=2|s=2|s=2|s=1", "s=1|s=2&s=2", "s=2&s=2|s=1");
+        holds("s=1", "s=1|s=2", "s=2|s=1", "s=1|s=2|s=3", "s=2|s=1|s=3", "s=2|s=2|s=2|s=1", "s=1|s=2&s=2", "s=2&s=2|s=1");
         doesNot("s=2", "s=2|s=3", "s=2|s=3|s=4");
         fault("s=1|", 4);
         fault("|s=1", 0);
@@ -659,6 +664,16 @@ final class TermEdges extends Edges {
         due("with a fault for good", x.bars(0, 0, 0), NONE);
         Houses.feedText(x, 0, "=0");
         due("whatever comes behind it", x.bars(0, 0, 0), NONE);
+        for (String begun : new String[] {"!", "(((", "((!", "s=2|", "(s=2|p=9)&(!"}) {
+            x = fresh();
+            x.story(1, 0, 0, 0);
+            x.rule(0);
+            x.rule(0);
+            Houses.feedText(x, 0, begun);
+            Houses.feedText(x, 1, "s=1&(p=0&(l=0))");
+            due("the next rule holds, whatever stands ahead", x.bars(0, 0, 0), 1);
+            due("or it does not", x.bars(0, 1, 0), NONE);
+        }
         says("A RULE BARS a STORY in a LAND on a DAY, if it is in force and holds");
         x = fresh();
         x.story(1, 0, 0, 0);
@@ -735,6 +750,7 @@ final class TermEdges extends Edges {
         due("twice", x.judge(0, 0, 0x121L), 1);
         x.apart(0, 1, true);
         due("apart, side by side", x.judge(0, 0, 0x12L), 4);
+        due("apart, the other way round", x.judge(0, 0, 0x21L), 4);
         due("apart, not side by side", x.judge(0, 0, 0x132L), 0);
         reelIs("one between them", x, 3, 0, 2, 1);
         x.reserve(2, true);
@@ -779,8 +795,12 @@ final class TermEdges extends Edges {
         reelIs("one for two", x, 10, 0);
         x.rival(0, true);
         reelIs("two for one", x, 9, 1, 2);
+        x = withStories(new int[] {1, 9, 1}, new int[] {400, 900, 400});
+        reelIs("not the first by stories, if it has less", x, 9, 1);
+        x.rival(1, true);
+        reelIs("nor if it has more by two", x, 4, 1);
+        x = withStories(new int[] {10, 4, 5}, new int[] {900, 300, 300});
         says("of like ones the first by STORIES, one by one (a row that ends is ahead of one that goes on)");
-        x.rival(0, false);
         x.story(1, 0, 0, 1);
         x.shot(0, 0, 300, 0, 0, 1);
         x.put(3, 3);
@@ -797,6 +817,11 @@ final class TermEdges extends Edges {
         reelIs("the last two apart", x, 7992, 0, 1, 2, 3, 4, 6, 5, 7);
         x.apart(0, 1, true);
         reelIs("the first two apart", x, 7992, 0, 2, 1, 3, 4, 6, 5, 7);
+        NewsreelHouse last = withStories(nines, hundreds);
+        for (int shot = 0; shot < 7; shot++) {
+            last.lose(shot);
+        }
+        reelIs("the last one alone", last, 999, 7);
         x.length(true, 800);
         reelIs("just as long", x, 7992, 0, 2, 1, 3, 4, 6, 5, 7);
         x.length(true, 799);
@@ -882,6 +907,13 @@ final class TermEdges extends Edges {
         due("an event behind the last way back: it alone, with that of 20", x.cover(), 18);
         x.man(0, 0, 6);
         due("an hour too late for the way", x.cover(), 12);
+        x = fresh();
+        x.man(0, 3, 5);
+        for (int hour : new int[] {10, 30, 20, 5, 25, 40, 4, 30}) {
+            x.event(3, hour, 1);
+        }
+        due("in whatever order they are told, and two at once", x.cover(), 7);
+        row("all but one that is over", (y, event) -> y.covered(event), x, 2, 2, 2, 2, 2, 2, 0, 2);
         says("COVER: EVENTS, each by one MAN at most, with the greatest WORTH together");
         x = fresh();
         x.event(1, 10, 7);
