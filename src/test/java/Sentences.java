@@ -9,8 +9,8 @@ import java.util.regex.Matcher;
 import java.util.regex.Pattern;
 
 /**
- * The sentences of the document's terms (as promise 0) and promises 1 to 51, and how many checks stand under
- * each: a sentence without one is a fault, and so is a check under words that the document does not say.
+ * The sentences of the document's terms (as promise 0, with that of 512 calls) and promises 1 to 51, and how many
+ * checks stand under each: a sentence without one is a fault, and so is a check under words that the document does not say.
  */
 final class Sentences {
     private static final Path DOCUMENT = Path.of("../shared/DOC.md");
@@ -21,6 +21,7 @@ final class Sentences {
 
     Sentences() throws IOException {
         String text = Files.readString(DOCUMENT);
+        keep(0, text.substring(text.indexOf("An object is used"), text.indexOf("## The public face")).trim());
         String terms = text.substring(text.indexOf("## Terms") + 8, text.indexOf("Ahead of the calls"));
         for (String line : terms.split("\n")) {
             if (!line.startsWith("```")) {

@@ -6,6 +6,7 @@ final class TermEdges extends Edges {
 
     void all() {
         promise(0);
+        calls();
         refusals();
         hoursAndPlaces();
         ways();
@@ -24,6 +25,19 @@ final class TermEdges extends Edges {
         men();
         halls();
         bestRun();
+    }
+
+    private void calls() {
+        says("An object is used for at most 512 calls after it has been made");
+        NewsreelHouse x = fresh();
+        for (int i = 1; i <= 511; i++) {
+            due("call " + i, x.pass(1), i);
+        }
+        due("the 512th call", x.count(7), 511);
+        says("what later calls answer is free");
+        for (int part = 0; part < Houses.TRACE_PARTS; part++) {
+            due("later calls end, and nothing is thrown", Houses.trace(x, part).isEmpty() ? 1 : 0, 0);
+        }
     }
 
     // ---- refusals
