@@ -1175,7 +1175,7 @@ public final class NewsreelHouse {
 
     /** What a reel may be, and the best one of the stories that are listed. */
     private static final class Reels {
-        private static final int[] NINES = {1, 9, 81, 729, 6561, 59049, 531441, 4782969, 43046721};
+        private static final int[] NINES = {1, 9, 81, 729, 6561, 59049, 531441, 4782969};
         private static final int END = 8;
 
         private int least = 100, most = 900;
@@ -1328,7 +1328,11 @@ public final class NewsreelHouse {
             if (bestRow < 0 || !within(i, 0, STORIES - 1)) {
                 return NONE;
             }
-            int figure = bestRow / NINES[STORIES - 1 - i] % 9;
+            int figures = bestRow;
+            for (int behind = STORIES - 1; behind > i; behind--) {
+                figures /= 9;
+            }
+            int figure = figures % 9;
             return figure == END ? NONE : END - 1 - figure;
         }
     }
@@ -1503,7 +1507,11 @@ public final class NewsreelHouse {
         }
 
         int bestWeek(int hall) {
-            int figure = (int) (bestRun() / TENS[HALLS - 1 - hall] % 10);
+            long figures = bestRun();
+            for (int behind = HALLS - 1; behind > hall; behind--) {
+                figures /= 10;
+            }
+            int figure = (int) (figures % 10);
             return figure == 0 ? NONE : WEEKS - figure;
         }
 

@@ -101,6 +101,15 @@ public final class FaceTest {
         }
     }
 
+    /** A divisor is a number, a constant, or was looked at in its own method (every): none is an element of an array. */
+    private static void divisors() throws IOException {
+        String code = Files.readString(SOURCE).replaceAll("(?s)/\\*.*?\\*/", "").replaceAll("//[^\n]*", "");
+        Matcher m = Pattern.compile("[/%]=? ([^ ;]*)").matcher(code);
+        while (m.find()) {
+            due(m.group(1).matches("[1-9]\\d*\\)?|[A-Z_]+\\)?|every"), "a divisor that was not looked at: " + m.group(1));
+        }
+    }
+
     /** Methods stay short: from a head to the brace that stands below it. */
     private static void lengths() throws IOException {
         List<String> lines = Files.readAllLines(SOURCE);
@@ -123,6 +132,7 @@ public final class FaceTest {
     public static void main(String[] args) throws IOException {
         face();
         words();
+        divisors();
         lengths();
         System.out.println(wrong == 0 ? "the face is as due" : wrong + " faults of the face");
         if (wrong != 0) {
